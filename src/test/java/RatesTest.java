@@ -165,6 +165,7 @@ public final class RatesTest {
         x.rate(1, 0, 1, 20);
         DUE.is("22: 0.5, higher", x.real(2, 0, 0), 0x3FE00000);
         DUE.is("22: -0.5, cut", x.real(6, 0, 3), 0);
+        x.rate(1, 0, 999, 7);
         int[][] wrong = {{9, 0, 0}, {-1, 0, 3}, {2, 1000, 0}, {2, -1, 0}, {2, 0, 4}, {2, 0, -1}};
         for (int[] w : wrong) {
             DUE.is("22: wrong", x.real(w[0], w[1], w[2]), 0);

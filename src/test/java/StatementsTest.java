@@ -91,6 +91,10 @@ public final class StatementsTest {
         x.days(1);
         Due.post(x, 5, 3, 6, -3);
         DUE.is("29: by now", x.extreme(3, 0), 5);
+        Due.post(x, 1, 17, 2, -15, 0, -2);
+        DUE.is("29: greatest, a lesser one behind it", x.extreme(0, 0), 1);
+        Due.post(x, 1, -29, 2, 9, 0, 20);
+        DUE.is("29: least, a greater one behind it", x.extreme(0, 1), 1);
         int[][] wrong = {{4, 0}, {-1, 0}, {0, 2}, {0, -1}};
         for (int[] w : wrong) {
             DUE.is("29: NONE", x.extreme(w[0], w[1]), -1);
