@@ -20,7 +20,7 @@ public final class DoubleLedger {
     private static final int ACCOUNT_FIGURES = 2, AMOUNT_FIGURES = 7, REVERSED_FIGURES = 2;
     private static final String REVERSED_MARK = " REV";
 
-    // The longest journal: ten times "29 -1000000", nine signs between them, " REV59".
+    // No journal is longer than ten times "29 -1000000", nine signs between them, " REV59".
     private static final int PAPER_BYTES = 125;
 
     private final Book book = new Book();
