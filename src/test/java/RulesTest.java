@@ -17,14 +17,52 @@ public final class RulesTest {
     private static final Due DUE = new Due("RulesTest");
     private static final Path SOURCE = Path.of("src/main/java/DoubleLedger.java");
     private static final Path DOCUMENT = Path.of("../shared/DOC.md");
+    private static final String BAD = """
+        import java.util.ArrayList;
+        public final class Bad {
+            static int counter = 0;
+            static final int[][] table = {};
+            static { counter = 1; }
+            class Inner { }
+            int itself(int n) { return n > 0 ? other(n) : 0; }
+            int other(int n) { return itself(n - 1); }
+            Runnable lambda() { return () -> { }; }
+            Runnable reference() { return this::loops; }
+            Object anonymous() { return new Object() { }; }
+            void loops() {
+                while (counter > 0) { counter--; }
+                do { counter++; } while (counter < 0);
+                for (int i = 0; i < 9; i++) { i--; }
+                for (int i = 0; counter < 9; i++) { counter++; }
+                for (Object o : new ArrayList<Object>()) { }
+            }
+            void throwing() { try { throw new IllegalStateException(); } catch (IllegalStateException e) { } }
+            int[] making(int n) { assert n > 0; synchronized (this) { return new int[n]; } }
+            boolean texts(String a, String b) { return a == b || a.isBlank(); }
+            String joined(String a) { return a + 1; }
+            double rest(double a) { return a % 2; }
+            long exact(long a) { return Math.addExact(a, 1L); }
+            void many(int a, int b, int c, int d, int e, int f, int g, int h) { a1(); }
+            void a1() { a2(); } void a2() { a3(); } void a3() { a4(); } void a4() { a5(); }
+            void a5() { a6(); } void a6() { a7(); } void a7() { a8(); } void a8() { a9(); } void a9() { }
+            @Deprecated void annotated() { }
+            void lengthy() { LINES }
+        }
+        """;
+    private static final List<String> BROKEN = List.of("rule 4, line 1: an import", "rule 5, line 3:", "rule 5, line 4:",
+        "rule 3, line 4: the type int[][]", "rule 5, line 5: an initialiser", "rule 2, line 6:", "rule 8: Bad.itself(int) calls",
+        "rule 8: Bad.other(int) calls", "rule 2, line 9: a lambda", "rule 2, line 10: a method ref", "rule 2, line 11: a local",
+        "rule 9, line 13: while", "rule 9, line 14: do", "rule 9, line 15: a loop", "rule 9, line 16: a loop", "rule 9, line 17: for",
+        "rule 4, line 17: new java.util.ArrayList", "rule 6, line 19: throw", "rule 6, line 19: try", "rule 6, line 20: assert",
+        "rule 6, line 20: sync", "rule 12, line 20: an array", "rule 6, line 21: EQUAL_TO", "rule 4, line 21: java.lang.String.isBlank",
+        "rule 10, line 22: PLUS", "rule 3, line 23: REMAINDER", "rule 4, line 24: java.lang.Math.addExact", "rule 11, line 25: more than seven",
+        "rule 11: Bad.a1() goes 9 deep", "rule 4, line 28: an annotation", "rule 11, line 29: a method of 61 lines");
 
     public static void main(String[] args) throws Exception {
         face(Files.readString(DOCUMENT));
         members();
         names();
-        String source = Files.readString(SOURCE);
-        words(source);
-        methods(withoutComments(source));
+        source();
         DUE.end();
     }
 
@@ -95,31 +133,19 @@ public final class RulesTest {
         }
     }
 
-    private static String withoutComments(String source) {
-        return source.replaceAll("(?s)/\\*.*?\\*/", "").replaceAll("//[^\n]*", "");
-    }
-
-    private static void words(String source) {
-        isTrue("rule 4: signs 1 to 127", source.chars().allMatch(c -> c >= 1 && c <= 127));
-        String code = withoutComments(source);
-        List<String> banned = List.of("package", "import", "->", "::", "\\btry\\b", "\\bcatch\\b", "\\bfinally\\b", "\\bthrow",
-            "\\bsynchronized\\b", "\\bassert\\b", "\\bprotected\\b", "\\bvar\\b", "static \\{", "Exact", "\\bDouble\\b", "\\bFloat\\b",
-            "\\bCharacter\\b", "\\bObject\\b", "\\bhashCode\\b", "\\btoString\\b", "\\bequals\\b", "\\bRandom\\b", "\\bThread\\b",
-            "System\\.(?!arraycopy)", "Math\\.(?!abs|max|min)", "\\bjava\\.", "\\bwhile\\b", "@");
-        for (String word : banned) {
-            isTrue("no " + word, !Pattern.compile(word).matcher(code).find());
+    /** The class breaks no rule; and a source that breaks them all shows that they would be seen. */
+    private static void source() throws Exception {
+        isTrue("rule 4: signs 1 to 127", Files.readString(SOURCE).chars().allMatch(c -> c >= 1 && c <= 127));
+        for (String broken : SourceRules.brokenIn(SOURCE.toFile())) {
+            isTrue(broken, false);
         }
-    }
-
-    private static void methods(String code) {
-        Matcher heads = Pattern.compile("(?m)^( {4}| {8})(?!if|for|switch|\\W)[^=;\n]*\\) \\{$").matcher(code);
-        int found = 0;
-        while (heads.find()) {
-            int end = code.indexOf("\n" + heads.group(1) + "}", heads.start());
-            long lines = code.substring(heads.start(), Math.max(end, heads.start())).lines().count();
-            isTrue("rule 11: a method of " + lines + " lines", end > 0 && lines <= 60);
-            found++;
+        Path folder = Files.createTempDirectory("rules");
+        Path bad = Files.writeString(folder.resolve("Bad.java"), BAD.replace("LINES", "\n".repeat(60)));
+        String seen = String.join("\n", SourceRules.brokenIn(bad.toFile()));
+        Files.delete(bad);
+        Files.delete(folder);
+        for (String due : BROKEN) {
+            isTrue("seen in a bad source: " + due, seen.contains(due));
         }
-        isTrue("rule 11: the methods are found", found > 80);
     }
 }
