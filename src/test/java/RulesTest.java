@@ -133,7 +133,7 @@ public final class RulesTest {
         }
     }
 
-    /** The class breaks no rule; and a source that breaks them all shows that they would be seen. */
+    /** The class breaks no rule; and a source that breaks most of what is looked for shows that it would be seen. */
     private static void source() throws Exception {
         isTrue("rule 4: signs 1 to 127", Files.readString(SOURCE).chars().allMatch(c -> c >= 1 && c <= 127));
         for (String broken : SourceRules.brokenIn(SOURCE.toFile())) {
